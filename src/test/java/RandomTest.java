@@ -1,0 +1,302 @@
+import java.nio.charset.StandardCharsets;
+import java.util.Arrays;
+import java.util.Random;
+
+/** Runs of calls by chance (the same ones each time), compared with the model. */
+public final class RandomTest {
+  private static final String[] NAMES = {"ball", "bike", "doll", "drum", "book", "kite", "game", "a", "b", "c",
+    "abcdefgh", "zzzzzzzz", "agesx", "kin", "kindx", "wishe", "x", "y", "z", "mm"};
+  private static final String[] MARKS = {"small", "loud", "red", "round", "late", "quiet", "m", "n", "soft"};
+  private static final String[] FACTS = {"age", "ages", "school", "house", "wishes"};
+
+  private final Random dice;
+  private final StringBuilder text = new StringBuilder();
+  private final int kinds;
+  private int told;
+
+  private RandomTest(Random dice, int kinds) {
+    this.dice = dice;
+    this.kinds = kinds;
+  }
+
+  private String pick(String[] from) {
+    return from[dice.nextInt(from.length)];
+  }
+
+  private boolean chance(int percent) {
+    return dice.nextInt(100) < percent;
+  }
+
+  private void word(String word) {
+    if (text.length() > 0 && Character.isLetterOrDigit(text.charAt(text.length() - 1))
+        && Character.isLetterOrDigit(word.charAt(0))) {
+      text.append(chance(10) ? "\n" : " ");
+    } else if (chance(10)) {
+      text.append(chance(50) ? " " : " \n ");
+    }
+    text.append(word);
+  }
+
+  private String rulesText(int others) {
+    for (int i = 0; i < kinds; i++) {
+      kind();
+    }
+    for (int i = 0; i < others; i++) {
+      int before = text.length();
+      other();
+      if (text.length() > 980) {
+        text.setLength(before);
+      }
+    }
+    return text.toString();
+  }
+
+  private void kind() {
+    word("kind");
+    word(NAMES[told]);
+    word("worth");
+    word("" + (1 + dice.nextInt(chance(50) ? 10 : 500)));
+    word("price");
+    word("" + dice.nextInt(chance(50) ? 4 : 1001));
+    word("at");
+    word("" + dice.nextInt(chance(50) ? 4 : 201));
+    told++;
+    if (chance(60)) {
+      word("is");
+      int mark = dice.nextInt(4);
+      word(MARKS[mark]);
+      if (chance(40)) {
+        word(",");
+        word(MARKS[4 + dice.nextInt(4)]);
+      }
+    }
+    word(";");
+  }
+
+  private void other() {
+    int what = dice.nextInt(100);
+    if (what < 25) {
+      word("never");
+      which(0);
+      word("for");
+      test(0);
+    } else if (what < 65) {
+      word("likes");
+      sum(0);
+      word("of");
+      which(0);
+      word("for");
+      test(0);
+    } else if (what < 93) {
+      word("gifts");
+      if (chance(50)) {
+        word("" + dice.nextInt(4));
+      } else {
+        sum(0);
+      }
+      word("for");
+      test(0);
+    } else {
+      word("even");
+      word("" + dice.nextInt(chance(60) ? 20 : 1001));
+    }
+    word(";");
+  }
+
+  private void which(int deep) {
+    atom(deep);
+    while (chance(25)) {
+      word(chance(50) ? "or" : "and");
+      atom(deep);
+    }
+  }
+
+  private void atom(int deep) {
+    int what = dice.nextInt(100);
+    if (what < 15) {
+      word("not");
+      atom(deep);
+    } else if (what < 25 && deep < 3) {
+      word("[");
+      which(deep + 1);
+      word("]");
+    } else if (what < 35 || told == 0) {
+      word("any");
+    } else if (what < 75) {
+      word(NAMES[dice.nextInt(told)]);
+    } else {
+      word(MARKS[dice.nextInt(2)]);
+    }
+  }
+
+  private void test(int deep) {
+    fact(deep);
+    while (chance(20)) {
+      word(chance(50) ? "or" : "and");
+      fact(deep);
+    }
+  }
+
+  private void fact(int deep) {
+    int what = dice.nextInt(100);
+    if (what < 10) {
+      word("not");
+      fact(deep);
+    } else if (what < 20 && deep < 3) {
+      word("[");
+      test(deep + 1);
+      word("]");
+    } else if (what < 35) {
+      word("all");
+    } else if (what < 45) {
+      word("wish");
+      word(pick(NAMES));
+    } else {
+      sum(deep);
+      word(new String[] {"<", ">", "="}[dice.nextInt(3)]);
+      sum(deep);
+    }
+  }
+
+  private void sum(int deep) {
+    part(deep);
+    while (chance(30)) {
+      word(new String[] {"+", "-", "*"}[dice.nextInt(3)]);
+      part(deep);
+    }
+  }
+
+  private void part(int deep) {
+    int what = dice.nextInt(100);
+    if (what < 10 && deep < 3) {
+      word("(");
+      sum(deep + 1);
+      word(")");
+    } else if (what < 50) {
+      word(pick(FACTS));
+    } else if (what < 95) {
+      word("" + dice.nextInt(10));
+    } else {
+      word("" + dice.nextInt(100000));
+    }
+  }
+
+  /** One to three bytes of a text are changed, so that most have faults. */
+  private byte[] spoil(byte[] text) {
+    byte[] bytes = text;
+    for (int n = 1 + dice.nextInt(3); n > 0 && bytes.length > 0; n--) {
+      int i = dice.nextInt(bytes.length);
+      String signs = ";,[]()<>=+-* \naz09A";
+      byte b = chance(95) ? (byte) signs.charAt(dice.nextInt(signs.length())) : (byte) dice.nextInt(256);
+      if (chance(40)) {
+        bytes[i] = b;
+      } else if (chance(50)) {
+        System.arraycopy(bytes, i + 1, bytes, i, bytes.length - i - 1);
+        bytes = Arrays.copyOf(bytes, bytes.length - 1);
+      } else if (bytes.length < 1000) {
+        byte[] more = Arrays.copyOf(bytes, bytes.length + 1);
+        System.arraycopy(bytes, i, more, i + 1, bytes.length - i);
+        more[i] = b;
+        bytes = more;
+      }
+    }
+    return bytes;
+  }
+
+  /** A text of words and signs by chance, for faults that a spoilt byte does not find. */
+  private byte[] babble() {
+    StringBuilder all = new StringBuilder();
+    String[] signs = {";", ",", "[", "]", "(", ")", "<", ">", "=", "+", "-", "*", "1", "99999", "501", "x", "ball"};
+    for (int n = dice.nextInt(12); n > 0; n--) {
+      all.append(chance(60) ? pick(Model.OWN.toArray(new String[0])) : pick(signs)).append(chance(80) ? " " : "");
+    }
+    return all.toString().getBytes(StandardCharsets.ISO_8859_1);
+  }
+
+  private static byte[] bytes(String text) {
+    byte[] all = text.getBytes(StandardCharsets.ISO_8859_1);
+    return all.length > 1000 ? Arrays.copyOf(all, 1000) : all;
+  }
+
+  private static void faults(int seed) {
+    Random dice = new Random(seed);
+    Pair pair = new Pair("faults " + seed);
+    for (int i = 0; i < 40; i++) {
+      RandomTest maker = new RandomTest(dice, dice.nextInt(12));
+      byte[] text = bytes(maker.rulesText(dice.nextInt(dice.nextInt(100) < 10 ? 30 : 6)));
+      int what = dice.nextInt(100);
+      pair.text(what < 10 ? text : what < 80 ? maker.spoil(text) : maker.babble());
+      pair.rules();
+    }
+    pair.compareBook();
+  }
+
+  private void acts(Pair pair, int reports, int gifts, int calls) {
+    int days = chance(40) ? 24 : 1 + dice.nextInt(6);
+    int houses = 1 + dice.nextInt(8);
+    for (int i = 0; i < reports + gifts + calls; i++) {
+      int what = dice.nextInt(reports + gifts + calls);
+      if (what < reports) {
+        StringBuilder wishes = new StringBuilder();
+        for (int n = dice.nextInt(4); n > 0; n--) {
+          wishes.append(pick(NAMES)).append(chance(97) ? " " : "  \n ");
+        }
+        if (chance(2)) {
+          wishes.append(pick(new String[] {"kind", "5", "abcdefghi", ".", "a b c d"}));
+        }
+        pair.text(wishes.toString());
+        pair.report(chance(30) ? 0 : dice.nextInt(reports) + 1, dice.nextInt(chance(30) ? 3 : 18),
+            dice.nextInt(4), dice.nextInt(houses), 1 + dice.nextInt(days));
+      } else if (what < reports + gifts) {
+        pair.gifts(dice.nextInt(kinds + 1), 1 + dice.nextInt(days), 1 + dice.nextInt(chance(80) ? 4 : 99));
+      } else {
+        pair.call(dice.nextInt(kinds + 1), 1 + dice.nextInt(days));
+      }
+      if (chance(5)) {
+        pair.annul(dice.nextInt(i + 3));
+      }
+    }
+  }
+
+  private static void run(int seed, boolean big) {
+    Random dice = new Random(seed);
+    Pair pair = new Pair((big ? "big run " : "run ") + seed);
+    int kinds = big ? 10 : dice.nextInt(7);
+    RandomTest maker = new RandomTest(dice, kinds);
+    pair.text(bytes(maker.rulesText(dice.nextInt(big ? 16 : 10))));
+    if (pair.rules() < 0) {
+      return;
+    }
+    pair.compareBook();
+    pair.compareGiving();
+    maker.acts(pair, big ? 60 : dice.nextInt(14), big ? 40 : dice.nextInt(12), big ? 2 : dice.nextInt(3));
+    pair.compareChildren();
+    for (int i = 0; i < 2; i++) {
+      pair.give();
+      pair.blind();
+      pair.compareGiving();
+      pair.spend(maker.chance(50) ? 100000 : dice.nextInt(50));
+      pair.spend(3);
+      maker.acts(pair, 3, 2, 1);
+      pair.compareGiving();
+      pair.as(dice.nextInt(pair.model.acts.size() + 2) - 1);
+      pair.compareChildren();
+    }
+  }
+
+  public static void main(String[] args) {
+    int from = args.length > 0 ? Integer.parseInt(args[0]) : 1;
+    int to = args.length > 1 ? Integer.parseInt(args[1]) : 250;
+    for (int seed = from; seed <= to; seed++) {
+      faults(seed);
+      run(seed, false);
+      if (seed % 10 == 0) {
+        run(seed, true);
+      }
+    }
+    System.out.println(Pair.compared + " answers compared with the model, " + Pair.wrong + " differ");
+    if (Pair.wrong > 0) {
+      System.exit(1);
+    }
+  }
+}
