@@ -1,5 +1,7 @@
 import java.nio.charset.StandardCharsets;
+import java.util.ArrayList;
 import java.util.Arrays;
+import java.util.List;
 import java.util.Random;
 
 /** Runs of calls by chance (the same ones each time), compared with the model. */
@@ -13,6 +15,7 @@ public final class RandomTest {
   private final StringBuilder text = new StringBuilder();
   private final int kinds;
   private int told;
+  private final List<String> marksTold = new ArrayList<>();
 
   private RandomTest(Random dice, int kinds) {
     this.dice = dice;
@@ -63,14 +66,18 @@ public final class RandomTest {
     told++;
     if (chance(60)) {
       word("is");
-      int mark = dice.nextInt(4);
-      word(MARKS[mark]);
+      mark(MARKS[dice.nextInt(4)]);
       if (chance(40)) {
         word(",");
-        word(MARKS[4 + dice.nextInt(4)]);
+        mark(MARKS[4 + dice.nextInt(4)]);
       }
     }
     word(";");
+  }
+
+  private void mark(String mark) {
+    word(mark);
+    marksTold.add(mark);
   }
 
   private void other() {
@@ -89,8 +96,8 @@ public final class RandomTest {
       test(0);
     } else if (what < 93) {
       word("gifts");
-      if (chance(50)) {
-        word("" + dice.nextInt(4));
+      if (chance(70)) {
+        word("" + (chance(10) ? 0 : 1 + dice.nextInt(3)));
       } else {
         sum(0);
       }
@@ -125,7 +132,7 @@ public final class RandomTest {
     } else if (what < 75) {
       word(NAMES[dice.nextInt(told)]);
     } else {
-      word(MARKS[dice.nextInt(2)]);
+      word(marksTold.isEmpty() || chance(1) ? MARKS[dice.nextInt(2)] : marksTold.get(dice.nextInt(marksTold.size())));
     }
   }
 
@@ -146,9 +153,9 @@ public final class RandomTest {
       word("[");
       test(deep + 1);
       word("]");
-    } else if (what < 35) {
+    } else if (what < 50) {
       word("all");
-    } else if (what < 45) {
+    } else if (what < 57) {
       word("wish");
       word(pick(NAMES));
     } else {
@@ -234,6 +241,8 @@ public final class RandomTest {
   private void acts(Pair pair, int reports, int gifts, int calls) {
     int days = chance(40) ? 24 : 1 + dice.nextInt(6);
     int houses = 1 + dice.nextInt(8);
+    int codes = chance(50) ? reports + 1 : 9999;
+    int most = chance(60) ? 2 : 5;
     for (int i = 0; i < reports + gifts + calls; i++) {
       int what = dice.nextInt(reports + gifts + calls);
       if (what < reports) {
@@ -245,10 +254,10 @@ public final class RandomTest {
           wishes.append(pick(new String[] {"kind", "5", "abcdefghi", ".", "a b c d"}));
         }
         pair.text(wishes.toString());
-        pair.report(chance(30) ? 0 : dice.nextInt(reports) + 1, dice.nextInt(chance(30) ? 3 : 18),
+        pair.report(chance(30) ? 0 : dice.nextInt(codes) + 1, dice.nextInt(chance(30) ? 3 : 18),
             dice.nextInt(4), dice.nextInt(houses), 1 + dice.nextInt(days));
       } else if (what < reports + gifts) {
-        pair.gifts(dice.nextInt(kinds + 1), 1 + dice.nextInt(days), 1 + dice.nextInt(chance(80) ? 4 : 99));
+        pair.gifts(dice.nextInt(kinds + 1), 1 + dice.nextInt(days), 1 + dice.nextInt(chance(95) ? most : 99));
       } else {
         pair.call(dice.nextInt(kinds + 1), 1 + dice.nextInt(days));
       }
@@ -269,7 +278,7 @@ public final class RandomTest {
     }
     pair.compareBook();
     pair.compareGiving();
-    maker.acts(pair, big ? 60 : dice.nextInt(14), big ? 40 : dice.nextInt(12), big ? 2 : dice.nextInt(3));
+    maker.acts(pair, big ? 60 : dice.nextInt(16), big ? 40 : dice.nextInt(20), big ? 2 : dice.nextInt(3));
     pair.compareChildren();
     for (int i = 0; i < 2; i++) {
       pair.give();
@@ -284,12 +293,53 @@ public final class RandomTest {
     }
   }
 
+  /** Many children and too few gifts, liked much alike or all unlike one another. */
+  private static void deal(int seed) {
+    Random dice = new Random(seed);
+    Pair pair = new Pair("deal " + seed);
+    int kinds = 2 + dice.nextInt(9);
+    RandomTest maker = new RandomTest(dice, kinds);
+    for (int i = 0; i < kinds; i++) {
+      maker.kind();
+    }
+    boolean alike = maker.chance(60);
+    for (int i = dice.nextInt(9); i > 0; i--) {
+      maker.text.append(alike ? "likes " + (1 + dice.nextInt(2)) : "likes age*" + dice.nextInt(9) + "+school*"
+          + dice.nextInt(9) + "-" + dice.nextInt(99)).append(" of ");
+      maker.which(2);
+      maker.text.append(" for ").append(maker.pick(FACTS)).append("<").append(dice.nextInt(12)).append(";");
+    }
+    maker.text.append("gifts 2 for all;gifts 3 for age>9;gifts 1 for age<4;even ").append(dice.nextInt(500)).append(";");
+    if (maker.chance(30)) {
+      maker.text.append("never any for school>8;");
+    }
+    pair.text(bytes(maker.text.toString()));
+    if (pair.rules() < 0) {
+      return;
+    }
+    int children = 2 + dice.nextInt(42);
+    int days = maker.chance(50) ? 24 : 1 + dice.nextInt(8);
+    for (int i = 1; i <= children; i++) {
+      pair.report(i, dice.nextInt(18), dice.nextInt(10), dice.nextInt(6), 1 + dice.nextInt(days));
+    }
+    for (int gifts = children * (1 + dice.nextInt(5)) / 3, n = 0; gifts > 0; gifts -= n) {
+      n = 1 + dice.nextInt(4);
+      pair.gifts(dice.nextInt(kinds), 1 + dice.nextInt(days), n);
+    }
+    pair.give();
+    pair.blind();
+    pair.compareGiving();
+    pair.spend(1 + dice.nextInt(maker.chance(50) ? 100 : 100000));
+    pair.compareGiving();
+  }
+
   public static void main(String[] args) {
     int from = args.length > 0 ? Integer.parseInt(args[0]) : 1;
     int to = args.length > 1 ? Integer.parseInt(args[1]) : 250;
     for (int seed = from; seed <= to; seed++) {
       faults(seed);
       run(seed, false);
+      deal(seed);
       if (seed % 10 == 0) {
         run(seed, true);
       }
