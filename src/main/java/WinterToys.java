@@ -29,6 +29,13 @@ public final class WinterToys {
     private static final int NUMBER = 259;
     private static final int OWN = 260;
 
+    /** A word is kept as eight times five bits, its first letter highest, 0 where there is none. */
+    private static final int LETTERS = 8;
+    private static final int LETTER_BITS = 5;
+    private static final int FIRST_SHIFT = LETTER_BITS * (LETTERS - 1);
+    private static final int BEFORE_A = 'a' - 1;
+    private static final int DIGITS = 5;
+
     /** The n-th of them, from 1 on, is the token OWN + n. */
     private static final String OWN_WORDS =
             "kind worth price at is never for likes of gifts even or and not any all wish age ages school house wishes ";
@@ -261,7 +268,7 @@ public final class WinterToys {
             known.addCome(come, day, book.kinds);
             floor.addDay(known, judge, day, come);
         }
-        deal();
+        ranker.deal();
         return giving.keep(book, known, judge, floor, come);
     }
 
@@ -286,7 +293,7 @@ public final class WinterToys {
             floor.clear(book.kinds);
             floor.addDay(known, judge, day, come);
             if (floor.rows > 0) {
-                deal();
+                ranker.deal();
                 sum += floor.takeRest(come);
             }
         }
@@ -367,17 +374,12 @@ public final class WinterToys {
         return within(day, 1, DAYS);
     }
 
-    /** A word is eight times five bits, its first letter highest, 0 where there is none. */
-    private static long withLetter(long word, int k, int letter) {
-        return word | (long) (letter - 'a' + 1) << (35 - 5 * k);
-    }
-
     private static int letterOf(long word, int k) {
-        if (k < 0 || k > 7) {
+        if (k < 0 || k >= LETTERS) {
             return NONE;
         }
-        int letter = (int) (word >> (35 - 5 * k)) & 31;
-        return letter == 0 ? NONE : letter - 1 + 'a';
+        int letter = (int) (word >> FIRST_SHIFT - LETTER_BITS * k) & (1 << LETTER_BITS) - 1;
+        return letter == 0 ? NONE : letter + BEFORE_A;
     }
 
     private boolean isKind(int kind) {
@@ -404,13 +406,6 @@ public final class WinterToys {
         }
     }
 
-    private void deal() {
-        if (floor.rows > 0 && floor.kinds > 0) {
-            filler.fill();
-            ranker.rank();
-        }
-    }
-
     /** The bytes that were fed, and what is read from them token by token. */
     private static final class Tape {
         final int[] bytes = new int[MOST_BYTES];
@@ -432,7 +427,7 @@ public final class WinterToys {
                     n++;
                     k = 0;
                 } else {
-                    own[n] = withLetter(own[n], k, letter);
+                    own[n] |= (long) (letter - BEFORE_A) << FIRST_SHIFT - LETTER_BITS * k;
                     k++;
                 }
             }
@@ -460,40 +455,31 @@ public final class WinterToys {
                 pos++;
             }
             start = pos;
-            if (pos >= length) {
-                token = END;
-                return;
-            }
-            boolean letter = isLetter(bytes[pos]);
-            if (!letter && !isDigit(bytes[pos])) {
-                token = bytes[pos];
-                pos++;
-            } else if (behindWord && pos == behind) {
-                token = BAD;
-            } else if (letter) {
+            token = pos < length ? bytes[pos] : END;
+            boolean letter = token >= 'a' && token <= 'z';
+            boolean digit = token >= '0' && token <= '9';
+            if (letter) {
                 readWord();
-            } else {
+            } else if (digit) {
                 readNumber();
+            } else {
+                pos = Math.min(pos + 1, length);
             }
-        }
-
-        private static boolean isLetter(int c) {
-            return c >= 'a' && c <= 'z';
-        }
-
-        private static boolean isDigit(int c) {
-            return c >= '0' && c <= '9';
+            if (behindWord && (letter || digit) && start == behind) {
+                token = BAD;
+            }
         }
 
         private void readWord() {
             word = 0;
-            for (; pos < length && isLetter(bytes[pos]); pos++) {
-                if (pos - start == 8) {
+            for (; pos < length && bytes[pos] >= 'a' && bytes[pos] <= 'z'; pos++) {
+                int k = pos - start;
+                if (k == LETTERS) {
                     start = pos;
                     token = BAD;
                     return;
                 }
-                word = withLetter(word, pos - start, bytes[pos]);
+                word |= (long) (bytes[pos] - BEFORE_A) << FIRST_SHIFT - LETTER_BITS * k;
             }
             token = NAME;
             for (int n = 0; n < OWN_COUNT; n++) {
@@ -506,15 +492,15 @@ public final class WinterToys {
 
         private void readNumber() {
             number = 0;
-            token = NUMBER;
-            for (; pos < length && isDigit(bytes[pos]); pos++) {
-                if (pos - start == 5) {
+            for (; pos < length && bytes[pos] >= '0' && bytes[pos] <= '9'; pos++) {
+                if (pos - start == DIGITS) {
                     start = pos;
                     token = BAD;
                     return;
                 }
                 number = number * 10 + bytes[pos] - '0';
             }
+            token = NUMBER;
         }
 
         /** How many wishes the tape tells; NONE if it tells something else. */
@@ -659,7 +645,14 @@ public final class WinterToys {
             book.empty();
             tape.rewind();
             for (int i = 0; i <= MOST_BYTES && tape.token != END; i++) {
-                boolean sound = tape.token == OWN + KIND ? readsKind() : readsOther();
+                boolean sound;
+                if (tape.token == OWN + KIND) {
+                    sound = readsKind();
+                } else if (tape.token == OWN + EVEN) {
+                    sound = readsEven();
+                } else {
+                    sound = readsClause(tape.token - OWN);
+                }
                 if (!sound) {
                     return false;
                 }
@@ -755,29 +748,25 @@ public final class WinterToys {
             return true;
         }
 
-        private boolean readsOther() {
-            int first = tape.token - OWN;
-            if (first != NEVER && first != LIKES && first != GIFTS && first != EVEN) {
-                return fails(1);
-            }
+        private boolean readsEven() {
             if (book.others >= MOST_OTHERS) {
                 return fails(5);
             }
-            return first == EVEN ? readsEven() : readsClause(first);
-        }
-
-        private boolean readsEven() {
-            int[] number = book.sumAt;
-            int i = book.others;
-            if (!readsNumber(EVEN, 0, 1000, number, i)) {
+            if (!readsNumber(EVEN, 0, 1000, book.sumAt, book.others)) {
                 return false;
             }
-            book.even = number[i];
+            book.even = book.sumAt[book.others];
             book.addOther(EVEN, book.size, book.size, book.size);
             return passes(';');
         }
 
         private boolean readsClause(int first) {
+            if (first != NEVER && first != LIKES && first != GIFTS) {
+                return fails(1);
+            }
+            if (book.others >= MOST_OTHERS) {
+                return fails(5);
+            }
             tape.step();
             int sum = book.size;
             if (first != NEVER && !readsSum()) {
@@ -836,11 +825,19 @@ public final class WinterToys {
             }
             boolean sound;
             if (tape.token == '[') {
-                sound = opens() && readsEither(ofKinds) && closes(']');
+                sound = opens() && readsEither(ofKinds) && passes(']');
+                open--;
+            } else if (ofKinds) {
+                sound = readsKinds();
+            } else if (tape.token == OWN + ALL || tape.token == OWN + WISH) {
+                sound = readsFact();
             } else {
-                sound = ofKinds ? readsKinds() : readsFact();
+                sound = readsSum();
+                int code = comparison(tape.token);
+                sound = sound && passesComparison(code) && readsSum();
+                book.addCode(code, 0);
             }
-            if (sound && not) {
+            if (not) {
                 book.addCode(Book.NOT_CODE, 0);
             }
             return sound;
@@ -855,11 +852,21 @@ public final class WinterToys {
             return true;
         }
 
-        private boolean closes(int sign) {
-            if (!passes(sign)) {
-                return false;
+        private static int comparison(int sign) {
+            if (sign == '<') {
+                return Book.LESS_CODE;
             }
-            open--;
+            if (sign == '>') {
+                return Book.MORE_CODE;
+            }
+            return sign == '=' ? Book.LIKE_CODE : NONE;
+        }
+
+        private boolean passesComparison(int code) {
+            if (code == NONE) {
+                return fails(1);
+            }
+            tape.step();
             return true;
         }
 
@@ -883,34 +890,14 @@ public final class WinterToys {
         private boolean readsFact() {
             if (tape.token == OWN + ALL) {
                 book.addCode(Book.FULL_CODE, 0);
-                tape.step();
-                return true;
-            }
-            if (tape.token == OWN + WISH) {
+            } else {
                 tape.step();
                 if (tape.token != NAME) {
                     return fails(1);
                 }
                 book.addAsked(tape.word);
-                tape.step();
-                return true;
-            }
-            return readsComparison();
-        }
-
-        private boolean readsComparison() {
-            if (!readsSum()) {
-                return false;
-            }
-            int code = tape.token == '<' ? Book.LESS_CODE : tape.token == '>' ? Book.MORE_CODE : Book.LIKE_CODE;
-            if (code == Book.LIKE_CODE && tape.token != '=') {
-                return fails(1);
             }
             tape.step();
-            if (!readsSum()) {
-                return false;
-            }
-            book.addCode(code, 0);
             return true;
         }
 
@@ -934,7 +921,9 @@ public final class WinterToys {
 
         private boolean readsPart() {
             if (tape.token == '(') {
-                return opens() && readsSum() && closes(')');
+                boolean sound = opens() && readsSum() && passes(')');
+                open--;
+                return sound;
             }
             if (tape.token == NUMBER) {
                 book.addCode(Book.NUMBER_CODE, tape.number);
@@ -1625,7 +1614,7 @@ public final class WinterToys {
         }
     }
 
-    /** Makes the first of all best deals out of one of them, by changes that cost nothing. */
+    /** Deals, and makes the first of all best deals out of one of them, by changes that cost nothing. */
     private static final class Ranker {
         /** In the place of a kind: a row gets one more, as another one gets one less. */
         static final int ONE_MORE = -3;
@@ -1656,7 +1645,11 @@ public final class WinterToys {
             filler = by;
         }
 
-        void rank() {
+        void deal() {
+            if (floor.rows == 0) {
+                return;
+            }
+            filler.fill();
             filler.level();
             Arrays.fill(fixed, 0);
             for (int child = 0; child < MOST_CHILDREN; child++) {
@@ -2135,7 +2128,7 @@ public final class WinterToys {
                         put(',');
                         put(' ');
                     }
-                    for (int k = 0; k < 8 && letterOf(book.kindName[kind], k) != NONE; k++) {
+                    for (int k = 0; k < LETTERS && letterOf(book.kindName[kind], k) != NONE; k++) {
                         put(letterOf(book.kindName[kind], k));
                     }
                 }

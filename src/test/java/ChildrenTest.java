@@ -125,6 +125,23 @@ public final class ChildrenTest {
     due("gifts 3 for 1<2 and 2>1 and 2=2;", 3);
   }
 
+  /** All that can be open at once is open, with as much as can be held back at each. */
+  private static void deepest() {
+    String yes = "1=1";
+    String no = "1=2";
+    String sum = "1";
+    for (int i = 0; i < 8; i++) {
+      yes = "1=2 or 1=1 and [" + yes + "]";
+      no = "1=2 or 1=1 and not not [" + no + "]";
+      sum = "1+(" + sum + ")";
+    }
+    due("gifts 3 for " + yes + ";", 3);
+    due("gifts 3 for " + no + ";", 1);
+    due("gifts " + sum + "-7 for all;", 2);
+    due("gifts 3 for 0=1 or 0=0 and [0=1 or 0=0 and [0=1 or 0=0 and [3=(9-(8-(7-(6-(5-4)))))]]];", 3);
+    due("gifts 3 for " + "wish z or ".repeat(80) + "wish y;", 3);
+  }
+
   private static void mays() {
     WinterToys toys = Check.barn(KINDS + "never m and not n for age<3;never b or n for age>15;never any for wish none;"
         + "kind d worth 1 price 1 at 1 is m;never not a for school=9;");
@@ -173,6 +190,7 @@ public final class ChildrenTest {
     noneSuch();
     forty();
     dues();
+    deepest();
     mays();
     pointSums();
     Check.finish("ChildrenTest");

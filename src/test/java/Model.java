@@ -110,17 +110,17 @@ final class Model {
           p++;
           continue;
         }
-        char last = tokens.isEmpty() ? 'S' : tokens.get(tokens.size() - 1).type;
-        if (from == behind && (last == 'W' || last == 'N')) {
-          tokens.add(new Token('B', "", from));
-          return;
-        }
         while (p < text.length && (letters ? text[p] >= 'a' && text[p] <= 'z' : text[p] >= '0' && text[p] <= '9')) {
           p++;
         }
         int most = letters ? 8 : 5;
         if (p - from > most) {
           tokens.add(new Token('B', "", from + most));
+          return;
+        }
+        char last = tokens.isEmpty() ? 'S' : tokens.get(tokens.size() - 1).type;
+        if (from == behind && (last == 'W' || last == 'N')) {
+          tokens.add(new Token('B', "", from));
           return;
         }
         tokens.add(new Token(letters ? 'W' : 'N', new String(text, from, p - from), from));

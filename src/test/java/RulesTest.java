@@ -55,6 +55,9 @@ public final class RulesTest {
     fault(1, "12345^6");
     fault(1, "^12345");
     fault(1, "even 12345^6;");
+    fault(1, "even12345^6;");
+    fault(1, "even 5abcdefgh^i;");
+    fault(1, "^;abcdefghi");
     fault(1, "kind ^kind worth 1 price 0 at 0;");
     fault(1, "kind ^5");
     fault(1, "kind a^5");
