@@ -1326,7 +1326,6 @@ public final class WinterToys {
         int rows;
         /** Slots are the days that have rows. */
         int slots;
-        final int[] child = new int[MOST_CHILDREN];
         final int[] slot = new int[MOST_CHILDREN];
         final int[] firstRow = new int[DAYS + 1];
         final int[] rowOf = new int[MOST_CHILDREN];
@@ -1365,7 +1364,6 @@ public final class WinterToys {
             if (rows >= MOST_CHILDREN) {
                 return;
             }
-            child[rows] = i;
             slot[rows] = slots;
             rowOf[i] = rows;
             due[rows] = judge.due[i];
