@@ -78,6 +78,21 @@ public final class ActsTest {
     Check.due("8: the tape goes", toys.end(1), false);
   }
 
+  /** The last act there may be is a report like any other. */
+  private static void lastActIsReport() {
+    WinterToys toys = Check.barn(KINDS);
+    for (int i = 1; i <= 120; i++) {
+      toys.gifts(0, 24, 1);
+    }
+    for (int i = 121; i <= 199; i++) {
+      toys.report(i % 39 + 1, 1, 1, 1, 1);
+    }
+    Check.due("8: report 200", Check.report(toys, "x y z", 999, 2, 3, 4, 5), 200);
+    Check.due("14: its CHILD", toys.child(200), 39);
+    Check.due("15: its AGE", toys.of(39, 1), 2);
+    Check.same("16: its last WISH", Check.wish(toys, 39, 2), "z");
+  }
+
   private static void giftsAndCalls() {
     WinterToys toys = Check.barn(KINDS);
     int[] wrongKinds = {-1, 2, Integer.MIN_VALUE, Integer.MAX_VALUE};
@@ -179,6 +194,7 @@ public final class ActsTest {
     wishes();
     tooMany();
     actsAreFullForReports();
+    lastActIsReport();
     giftsAndCalls();
     annulling();
     asKnown();

@@ -184,6 +184,28 @@ public final class GivingTest {
     Check.due("20: CHILDREN with all", toys.given(1), 40);
   }
 
+  /** A child on each day, and on each day one gift less than is due up to it. */
+  private static void everyDay() {
+    WinterToys toys = Check.barn(KINDS);
+    for (int day = 1; day <= 24; day++) {
+      toys.report(0, 1, 0, 0, day);
+      if (day > 1) {
+        toys.gifts(0, day, 1);
+      }
+    }
+    Check.due("23: blind()", toys.blind(), 23);
+    Check.due("19: give()", toys.give(), 23);
+    Check.due("21: gets(0)", toys.gets(0), 0);
+    for (int child = 1; child < 24; child++) {
+      Check.due("21: gets(" + child + ")", toys.gets(child), 1);
+    }
+    toys.gifts(1, 24, 1);
+    toys.gifts(0, 1, 1);
+    Check.due("19: give()", toys.give(), 24);
+    Check.due("21: the last one has the first KIND", toys.gets(23), 1);
+    Check.due("22: left(1)", toys.left(1), 1);
+  }
+
   /** Gifts left over from rules with more KINDS must not be counted with those with fewer. */
   private static void fewerKinds() {
     WinterToys toys = Check.barn(KINDS);
@@ -205,6 +227,7 @@ public final class GivingTest {
     sums();
     asItWas();
     wrap();
+    everyDay();
     fewerKinds();
     Check.finish("GivingTest");
   }

@@ -3,6 +3,8 @@ import java.util.ArrayList;
 import java.util.Arrays;
 import java.util.List;
 import java.util.Random;
+import java.util.regex.Matcher;
+import java.util.regex.Pattern;
 
 /** Runs of calls by chance (the same ones each time), compared with the model. */
 public final class RandomTest {
@@ -210,6 +212,27 @@ public final class RandomTest {
     return bytes;
   }
 
+  /** One to three words, numbers or signs of a text are changed for others of it, put twice, or left out. */
+  private byte[] jumble(byte[] text) {
+    List<String> tokens = new ArrayList<>();
+    Matcher m = Pattern.compile("[a-z]+|[0-9]+|[^a-z0-9]").matcher(new String(text, StandardCharsets.ISO_8859_1));
+    while (m.find()) {
+      tokens.add(m.group());
+    }
+    for (int n = 1 + dice.nextInt(3); n > 0 && tokens.size() > 1; n--) {
+      int i = dice.nextInt(tokens.size());
+      String other = tokens.get(dice.nextInt(tokens.size()));
+      if (chance(60)) {
+        tokens.set(i, other);
+      } else if (chance(50)) {
+        tokens.add(i, other);
+      } else {
+        tokens.remove(i);
+      }
+    }
+    return bytes(String.join("", tokens));
+  }
+
   /** A text of words and signs by chance, for faults that a spoilt byte does not find. */
   private byte[] babble() {
     StringBuilder all = new StringBuilder();
@@ -232,7 +255,7 @@ public final class RandomTest {
       RandomTest maker = new RandomTest(dice, dice.nextInt(12));
       byte[] text = bytes(maker.rulesText(dice.nextInt(dice.nextInt(100) < 10 ? 30 : 6)));
       int what = dice.nextInt(100);
-      pair.text(what < 10 ? text : what < 80 ? maker.spoil(text) : maker.babble());
+      pair.text(what < 10 ? text : what < 45 ? maker.spoil(text) : what < 85 ? maker.jumble(text) : maker.babble());
       pair.rules();
     }
     pair.compareBook();

@@ -72,6 +72,9 @@ public final class RulesTest {
     fault(1, "never not^;");
     fault(1, A + "never a ^a for all;");
     fault(1, "likes 1 ^any for all;");
+    fault(1, "likes 1 ^never any for all;");
+    fault(1, "never any ^never any for all;");
+    fault(1, "gifts 1 ^even 5;");
     fault(1, "likes 1 of any ^all;");
     fault(1, "gifts ^-1 for all;");
     fault(1, "gifts ^any for all;");
