@@ -356,6 +356,70 @@ public final class RandomTest {
     pair.compareGiving();
   }
 
+  /** A number for any call: mostly small, at times one that can't be. */
+  private int number(int most) {
+    if (chance(4)) {
+      int[] odd = {Integer.MIN_VALUE, Integer.MAX_VALUE, -1, -2, 100, 1000, 10000, 100001};
+      return odd[dice.nextInt(odd.length)];
+    }
+    return dice.nextInt(most + 2) - (chance(5) ? 1 : 0);
+  }
+
+  private void wildCall(Pair p) {
+    WinterToys t = p.toys;
+    Model m = p.model;
+    int a = number(40);
+    int b = number(10);
+    int c = number(24);
+    switch (dice.nextInt(32)) {
+      case 0: p.same("end(" + a + ")", t.end(a) ? 1 : 0, m.end(a) ? 1 : 0); break;
+      case 1: p.same("fault(" + b + ")", t.fault(b), m.fault(b)); break;
+      case 2: p.same("name(" + b + ", " + c + ")", t.name(a < 20, b, c), m.name(a < 20, b, c)); break;
+      case 3: p.same("marked(" + b + ", " + c + ")", t.marked(b, c), m.marked(b, c)); break;
+      case 4: case 5: case 6: case 7: p.text(chance(50) ? "" : pick(NAMES) + " " + pick(NAMES));
+        p.report(number(9), number(17), number(2), number(3), number(24)); break;
+      case 8: case 9: case 10: p.gifts(b, c, number(3)); break;
+      case 11: p.call(b, c); break;
+      case 12: p.annul(number(m.acts.size())); break;
+      case 13: p.as(number(m.acts.size())); break;
+      case 14: p.same("all(" + b + ")", t.all(b), m.all(b)); break;
+      case 15: p.same("child(" + a + ")", t.child(a), m.child(a)); break;
+      case 16: p.same("of(" + a + ", " + b + ")", t.of(a, b), m.of(a, b)); break;
+      case 17: p.same("wish(" + a + ", " + b + ", " + c + ")", t.wish(a, b, c), m.wish(a, b, c)); break;
+      case 18: p.same("may(" + a + ", " + b + ")", t.may(a, b), m.may(a, b)); break;
+      case 19: p.same("points(" + a + ", " + b + ")", t.points(a, b), m.points(a, b)); break;
+      case 20: p.give(); break;
+      case 21: p.same("given(" + b + ")", t.given(b), m.given(b)); break;
+      case 22: p.same("gets(" + a + ")", t.gets(a), m.gets(a)); break;
+      case 23: p.same("left(" + b + ")", t.left(b), m.left(b)); break;
+      case 24: p.blind(); break;
+      case 25: p.same("lacks(" + b + ", " + c + ")", t.lacks(b, c), m.lacks(b, c)); break;
+      case 26: p.same("price(" + a + ")", t.price(a), m.price(a)); break;
+      case 27: p.spend(number(60)); p.same("spent()", t.spent(), m.spent()); break;
+      case 28: p.same("right()", t.right(), m.right()); break;
+      case 29: p.same("walks(" + b + ")", t.walks(b), m.walks(b)); p.same("bag(" + b + ")", t.bag(b), m.bag(b)); break;
+      case 30: p.same("queue(" + c + ", " + b + ")", t.queue(c, b, 1), m.queue(c, b, 1)); break;
+      default: p.same("label(" + a + ")", t.label(a), m.label(a)); p.same("at(" + c + ")", t.at(c), m.at(c)); break;
+    }
+  }
+
+  /** Any calls in any order. */
+  private static void wild(int seed) {
+    Random dice = new Random(seed);
+    Pair pair = new Pair("wild run " + seed);
+    int kinds = 1 + dice.nextInt(10);
+    RandomTest maker = new RandomTest(dice, kinds);
+    byte[] text = bytes(maker.rulesText(dice.nextInt(8)));
+    for (int i = 0; i < 400; i++) {
+      if (i == 30 || maker.chance(1)) {
+        pair.same("end(0)", pair.toys.end(0) ? 1 : 0, pair.model.end(0) ? 1 : 0);
+        pair.text(maker.chance(80) ? text : maker.spoil(text.clone()));
+        pair.rules();
+      }
+      maker.wildCall(pair);
+    }
+  }
+
   public static void main(String[] args) {
     int from = args.length > 0 ? Integer.parseInt(args[0]) : 1;
     int to = args.length > 1 ? Integer.parseInt(args[1]) : 250;
@@ -363,6 +427,7 @@ public final class RandomTest {
       faults(seed);
       run(seed, false);
       deal(seed);
+      wild(seed);
       if (seed % 10 == 0) {
         run(seed, true);
       }
