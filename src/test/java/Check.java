@@ -52,6 +52,22 @@ final class Check {
     return toys.rules();
   }
 
+  /** A text with a fault; its place is where the text has a ^ (which is no part of it). */
+  static void fault(int number, String text) {
+    WinterToys toys = new WinterToys();
+    due("4: rules of " + text, rules(toys, text.replace("^", "")), -1);
+    due("5: fault(0) of " + text, toys.fault(0), number);
+    due("5: fault(1) of " + text, toys.fault(1), text.indexOf('^'));
+  }
+
+  /** A text without one, of so many statements. */
+  static void sound(int statements, String text) {
+    WinterToys toys = new WinterToys();
+    due("4: rules of " + text, rules(toys, text), statements);
+    due("5: fault(0) of " + text, toys.fault(0), 0);
+    due("5: fault(1) of " + text, toys.fault(1), NONE);
+  }
+
   /** A new object with rules that must be sound. */
   static WinterToys barn(String text) {
     WinterToys toys = new WinterToys();

@@ -3,21 +3,12 @@ public final class RulesTest {
   private static final String A = "kind a worth 1 price 0 at 0;";
   private static final String AM = "kind a worth 1 price 0 at 0 is m;";
 
-  /** The place of the fault is where the text has a ^ (which is no part of it). */
   private static void fault(int number, String text) {
-    WinterToys toys = new WinterToys();
-    Check.due("4: rules of " + text, Check.rules(toys, text.replace("^", "")), -1);
-    Check.due("5: fault(0) of " + text, toys.fault(0), number);
-    Check.due("5: fault(1) of " + text, toys.fault(1), text.indexOf('^'));
+    Check.fault(number, text);
   }
 
   private static void sound(int statements, String text) {
-    WinterToys toys = new WinterToys();
-    Check.due("4: rules of " + text, Check.rules(toys, text), statements);
-    Check.due("5: fault(0) of " + text, toys.fault(0), 0);
-    Check.due("5: fault(1) of " + text, toys.fault(1), Check.NONE);
-    Check.due("5: fault(2)", toys.fault(2), Check.NONE);
-    Check.due("5: fault(-1)", toys.fault(-1), Check.NONE);
+    Check.sound(statements, text);
   }
 
   private static void soundTexts() {
