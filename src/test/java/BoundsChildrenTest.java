@@ -169,6 +169,25 @@ public final class BoundsChildrenTest {
     Check.same("16: WISH 3", Check.wish(toys, 0, 3), "u");
   }
 
+  /** What was told later, or was not so, is no wish as known at an act. */
+  private static void wishesAsKnown() {
+    WinterToys toys = Check.barn(KINDS);
+    Check.report(toys, "p", 5, 1, 1, 1, 1);
+    Check.report(toys, "q r s", 5, 1, 1, 1, 1);
+    Check.same("16: WISH 3", Check.wish(toys, 0, 3), "s");
+    toys.as(1);
+    Check.due("15: wishes at 1", toys.of(0, 6), 1);
+    Check.same("16: WISH 0 at 1", Check.wish(toys, 0, 0), "p");
+    for (int i = 1; i <= 4; i++) {
+      Check.due("16: WISH " + i + " at 1", toys.wish(0, i, 0), Check.NONE);
+    }
+    toys.as(Check.NONE);
+    toys.annul(1);
+    Check.due("15: wishes behind annul", toys.of(0, 6), 3);
+    Check.same("16: WISH 0 behind annul", Check.wish(toys, 0, 0), "q");
+    Check.due("16: WISH 3 behind annul", toys.wish(0, 3, 0), Check.NONE);
+  }
+
   /** A fifth wish is none: no test holds by it. */
   private static void fifthWish() {
     for (int n = 1; n <= 5; n++) {
@@ -458,6 +477,7 @@ public final class BoundsChildrenTest {
     lastReport();
     ages();
     fourWishes();
+    wishesAsKnown();
     fifthWish();
     lettersOfWishes();
     houses();

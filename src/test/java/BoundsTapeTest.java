@@ -149,6 +149,23 @@ public final class BoundsTapeTest {
     Check.due("3: bytes that went can't come back", toys.end(1), false);
   }
 
+  /** What one object is told, another one does not know. */
+  private static void twoObjects() {
+    WinterToys one = Check.barn("kind a worth 1 price 0 at 0;even 7;");
+    WinterToys other = new WinterToys();
+    Check.text(one, "doll");
+    Check.due("2: another tape", other.end(1), false);
+    Check.due("8: report", one.report(1, 2, 3, 4, 5), 1);
+    Check.due("19: give()", one.give(), 0);
+    int[] all = {0, 0, 0, 0, 0, 0, 0, 1000};
+    for (int what = 0; what < all.length; what++) {
+      Check.due("1: all(" + what + ") of the other one", other.all(what), all[what]);
+    }
+    Check.due("20: no give()", other.given(0), Check.NONE);
+    Check.due("8: its own first ACT", other.report(9, 9, 9, 9, 9), 1);
+    Check.due("15: AGE", one.of(0, 1), 2);
+  }
+
   /** "An object is used for at most 512 calls": the last of them is answered as the first one. */
   private static void lastCall() {
     WinterToys toys = new WinterToys();
@@ -168,6 +185,7 @@ public final class BoundsTapeTest {
     highestFirst();
     firstBytesAlone();
     endRefused();
+    twoObjects();
     lastCall();
     Check.finish("BoundsTapeTest");
   }

@@ -191,6 +191,29 @@ public final class BoundsTextTest {
     }
   }
 
+  /** "the first byte with which no TEXT goes on": where a part of a statement lacks, at what stands in its place. */
+  private static void partsThatLack() {
+    String[] texts = {"kind^;", "kind ^worth 1 price 0 at 0;", "kind a^;", "kind a ^1 price 0 at 0;",
+      "kind a ^price 0 at 0;", "kind a worth^;", "kind a worth ^price 0 at 0;", "kind a worth 1^;",
+      "kind a worth 1 ^0 at 0;", "kind a worth 1 ^at 0;", "kind a worth 1 price ^at 0;", "kind a worth 1 price 0^;",
+      "kind a worth 1 price 0 ^0;", "kind a worth 1 price 0 ^is m;", "kind a worth 1 price 0 at^;",
+      "kind a worth 1 price 0 at ^is m;", "kind a worth 1 price 0 at 0 ^m;", "kind a worth 1 price 0 at 0^,m;",
+      "kind a worth 1 price 0 at 0 is^;", "kind a worth 1 price 0 at 0 is^,m;", "kind a worth 1 price 0 at 0 is m ^n;",
+      "kind a worth 1 price 0 at 0 is m,^;", "kind a worth 1 price 0 at 0 is m,^,n;",
+      "kind a worth 1 price 0 at 0 is m ^is n;", "never^;", "never ^for all;", "never any^;", "never any ^all;",
+      "never any for^;", "never any or ^for all;", "never any and^;", "never not ^for all;", "never [^] for all;",
+      "never [any ^for all;", "never any ^any for all;", "likes^;", "likes ^of any for all;", "likes 1^;",
+      "likes 1 ^any for all;", "likes 1 ^for all;", "likes 1 of ^for all;", "likes 1 of any^;", "likes 1 of any ^all;",
+      "likes 1 of any for^;", "gifts^;", "gifts ^for all;", "gifts 1^;", "gifts 1 ^all;", "gifts 1 for^;",
+      "gifts 1 for age^;", "gifts 1 for age ^3;", "gifts 1 for age<^;", "gifts 1 for ^<3;", "gifts 1 for age<^<3;",
+      "gifts 1 for age<3^=3;", "gifts 1 for all and^;", "gifts 1 for all or^;", "gifts 1 for not^;",
+      "gifts 1 for wish^;", "gifts 1 for [^];", "gifts 1 for (^);", "gifts (^) for all;", "gifts 1+ ^for all;",
+      "gifts ^+1 for all;", "gifts 1+^+1 for all;", "gifts 1 ^1 for all;", "even^;", "even 5 ^6;", "^5;", "^a;", "^any;"};
+    for (String text : texts) {
+      fault(1, text);
+    }
+  }
+
   private static String kinds(int n) {
     StringBuilder text = new StringBuilder();
     for (int i = 0; i < n; i++) {
@@ -474,6 +497,7 @@ public final class BoundsTextTest {
       toys.spend(0);
       int kinds = text.isBlank() ? 0 : 1;
       Check.due("4: rules()", Check.rules(toys, text), kinds);
+      Check.due("4: the tape goes", toys.end(1), false);
       int[] all = {kinds, 0, 0, 0, 0, 0, 0, 1000};
       for (int what = 0; what < all.length; what++) {
         Check.due("4: all(" + what + ")", toys.all(what), all[what]);
@@ -486,6 +510,27 @@ public final class BoundsTextTest {
       Check.due("4: as() is NONE", toys.all(4), 1);
       Check.due("4: all is known", toys.child(1), 0);
     }
+  }
+
+  /** An act, and a child, of the same number is another one behind rules(), by other rules. */
+  private static void allIsNew() {
+    WinterToys toys = Check.barn(AM + "likes 3 of a for all;gifts 3 for all;");
+    Check.report(toys, "old", 5, 6, 7, 8, 9);
+    Check.due("15: AGE", toys.of(0, 1), 6);
+    Check.due("15: DUE", toys.of(0, 9), 3);
+    Check.due("18: POINTS", toys.points(0, 0), 3);
+    Check.due("4: rules()", Check.rules(toys, "kind b worth 1 price 0 at 0;never b for all;"), 2);
+    Check.report(toys, "", 1, 2, 3, 4, 5);
+    Check.due("15: AGE", toys.of(0, 1), 2);
+    Check.due("15: wishes", toys.of(0, 6), 0);
+    Check.due("16: WISH", toys.wish(0, 0, 0), Check.NONE);
+    Check.due("15: DUE", toys.of(0, 9), 1);
+    Check.due("17: may", toys.may(0, 0), 0);
+    Check.due("18: POINTS", toys.points(0, 0), 0);
+    Check.due("4: the same once more", Check.rules(toys, "kind b worth 1 price 0 at 0;gifts 2 for all;"), 2);
+    toys.report(1, 2, 3, 4, 5);
+    Check.due("17: may", toys.may(0, 0), 1);
+    Check.due("15: DUE", toys.of(0, 9), 2);
   }
 
   /** "its FAULT (what 0; 0 without, or ahead of any), its place (1; NONE without). NONE for another what." */
@@ -587,6 +632,7 @@ public final class BoundsTextTest {
     sideBySide();
     noneOrMany();
     endsTooSoon();
+    partsThatLack();
     tenKinds();
     numbersThatCantBe();
     numbersInSums();
@@ -602,6 +648,7 @@ public final class BoundsTextTest {
     firstAlongTheText();
     allStays();
     allGoes();
+    allIsNew();
     faultsWhat();
     lettersOfNames();
     markedOrNot();
