@@ -118,8 +118,8 @@ public final class BoundsActsTest {
       Check.due("8: wishes " + can[i], Check.report(toys, can[i], 0, 1, 1, 1, 1), i + 1);
       Check.due("15: wishes of " + can[i], toys.of(i, 6), told[i]);
     }
-    String[] cannot = {"a b c d", "a a a a", "a b c abcdefghi", "abcdefghi", "a b abcdefghi", "A", "a`", "{", "a 5", "5",
-      "a5", "5a", "a,b", "a;", "a\tb", "a\u0000", "\r", "a b c\u00e9", "a b c 5"};
+    String[] cannot = {"a b c d", "a a a a", "a b c abcdefghi", "abcdefghi", "a b abcdefghi", "A", "a`", "{", "a 5",
+      "5", "a5", "5a", "a,b", "a;", "a\tb", "a\u0000", "\r", "a b c\u00e9", "a b c 5"};
     for (String text : cannot) {
       Check.due("8: wishes " + text, Check.report(toys, text, 0, 1, 1, 1, 1), Check.NONE);
       Check.due("8: the tape goes", toys.end(1), false);

@@ -49,10 +49,10 @@ public final class BoundsCoinsTest {
     price(greatest + "0;", Check.NONE, 0);
   }
 
-  /** Children given 2 and 3 of these kinds: 1000 and 1500 are 500 apart; EVEN counts up to 1000. */
+  /** "less EVEN", as great as it can be: one child has 1000, the other one nothing, and nothing is due to it. */
   private static void widestEven() {
     for (int even : new int[] {999, 1000}) {
-      WinterToys toys = Check.barn("kind a worth 500 price 0 at 0;kind b worth 500 price 0 at 0;kind c worth 1 price 0 at 0;"
+      WinterToys toys = Check.barn("kind a worth 500 price 0 at 0;kind b worth 500 price 0 at 0;"
           + "gifts 2 for age=1;gifts 0 for age=2;even " + even + ";");
       toys.report(1, 1, 0, 7, 1);
       toys.report(2, 2, 0, 7, 1);
@@ -69,7 +69,8 @@ public final class BoundsCoinsTest {
     price(kinds.replace("#", "9"), 3, 2);
     price(kinds.replace("#", "10"), 3, 2);
     price(kinds.replace("#", "11"), 9, 4);
-    String both = "kind a worth 10 price 0 at 0;kind b worth 5 price 3 at 0;kind c worth # price 9 at 0;gifts 2 for age=2;";
+    String both = "kind a worth 10 price 0 at 0;kind b worth 5 price 3 at 0;kind c worth # price 9 at 0;"
+        + "gifts 2 for age=2;";
     price(both.replace("#", "5"), 12, 6);
     price(both.replace("#", "6"), Check.NONE, 0);
   }
@@ -147,7 +148,7 @@ public final class BoundsCoinsTest {
     price(a + "kind b worth 5 price 2 at 0;kind c worth 5 price 2 at 0;kind d worth 5 price 2 at 0;even 0;", 4, 6);
   }
 
-  /** "Children .. the least price first, of like ones the lesser number, as long as COINS are enough for the next one." */
+  /** Children of these ages, behind give(): each costs as much as its age; 9 can't be made right, 0 is. */
   private static WinterToys row(String ages) {
     WinterToys toys = Check.barn("kind a worth 1 price 5 at 0;kind b worth 1 price 7 at 0;kind c worth 1 price 8 at 0;"
         + "never not a for age=5;never not b for age=7;never not c for age=8;never any for age=9;gifts 0 for age=0;");
@@ -170,7 +171,7 @@ public final class BoundsCoinsTest {
     Check.due("28: right" + what, toys.right(), right + made);
   }
 
-  /** Just enough coins, and one less, for each of them; one that is dear is not left out for another one. */
+  /** "the least price first, of like ones the lesser number, as long as COINS are enough": just so, and one less. */
   private static void enoughForTheNext() {
     spends("875", 4, 0, 0, "000");
     spends("875", 5, 1, 5, "001");

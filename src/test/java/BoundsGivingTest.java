@@ -148,6 +148,9 @@ public final class BoundsGivingTest {
     gives("the first KINDS", barn("gifts 2 for all;", days(1), 3, 1, 1, 1, 1, 1, 0, 1, 1), 3);
     gives("as the CHILD ahead says", barn("", days(1, 1), 3, 1, 1, 0, 1, 1), 1, 8);
     gives("of a later DAY, but ahead", barn("", days(24, 1), 0, 1, 1), 1, 0);
+    gives("of a later DAY, but ahead, though nobody likes it", barn("likes 0-5 of any for all;", days(24, 1), 0, 1, 1),
+        1, 0);
+    gives("of a later DAY, but ahead, though all like it", barn("likes 5 of any for all;", days(24, 1), 0, 1, 1), 1, 0);
     gives("all of one", barn("gifts 3 for all;", days(1, 1), 0, 1, 1, 1, 1, 1, 2, 1, 1), 7, 0);
   }
 
@@ -317,7 +320,8 @@ public final class BoundsGivingTest {
     toys.give();
     int[][] want = {{0, 17, 5}, {0, 0, 1}, {17, 17, 2}, {1, 16, 2}, {5, 5, 1}, {5, 6, 2}, {6, 6, 1}, {4, 4, 0},
       {1, 4, 0}, {7, 16, 0}, {7, 17, 2}, {0, 4, 1}, {6, 5, 0}, {17, 0, 0}, {18, 99, 0}, {-9, -1, 0}, {-1, 0, 1},
-      {17, 18, 2}, {LEAST, MOST, 5}, {MOST, LEAST, 0}, {LEAST, LEAST, 0}, {MOST, MOST, 0}, {LEAST, 16, 3}, {1, MOST, 4}};
+      {17, 18, 2}, {LEAST, MOST, 5}, {MOST, LEAST, 0}, {LEAST, LEAST, 0}, {MOST, MOST, 0}, {LEAST, 16, 3},
+      {1, MOST, 4}};
     for (int[] n : want) {
       Check.due("24: lacks(" + n[0] + ", " + n[1] + ")", toys.lacks(n[0], n[1]), n[2]);
     }

@@ -208,7 +208,8 @@ public final class BoundsTextTest {
       "gifts 1 for age^;", "gifts 1 for age ^3;", "gifts 1 for age<^;", "gifts 1 for ^<3;", "gifts 1 for age<^<3;",
       "gifts 1 for age<3^=3;", "gifts 1 for all and^;", "gifts 1 for all or^;", "gifts 1 for not^;",
       "gifts 1 for wish^;", "gifts 1 for [^];", "gifts 1 for (^);", "gifts (^) for all;", "gifts 1+ ^for all;",
-      "gifts ^+1 for all;", "gifts 1+^+1 for all;", "gifts 1 ^1 for all;", "even^;", "even 5 ^6;", "^5;", "^a;", "^any;"};
+      "gifts ^+1 for all;", "gifts 1+^+1 for all;", "gifts 1 ^1 for all;", "even^;", "even 5 ^6;", "^5;",
+      "^a;", "^any;"};
     for (String text : texts) {
       fault(1, text);
     }
@@ -253,7 +254,7 @@ public final class BoundsTextTest {
     }
   }
 
-  /** "its WORTH (1 .. 500), PRICE (0 .. 1000 ..), SHELF (0 .. 200)", "EVEN is 0 .. 1000", "4 a NUMBER that can't be". */
+  /** "WORTH (1 .. 500), PRICE (0 .. 1000 ..), SHELF (0 .. 200)", "EVEN is 0 .. 1000", "4 a NUMBER that can't be". */
   private static void numbersThatCantBe() {
     number("kind a worth # price 0 at 0;", 1, 500);
     number("kind a worth 1 price # at 0;", 0, 1000);
@@ -533,6 +534,29 @@ public final class BoundsTextTest {
     Check.due("15: DUE", toys.of(0, 9), 2);
   }
 
+  /** Nothing of a text that was read ahead, sound or not, stays in the rules of a shorter one. */
+  private static void nothingStaysBehind() {
+    String longer = AM + "kind b worth 1 price 0 at 0 is n;gifts 2 for not not not all or not [wish x];"
+        + "likes 9*9 of not a for not all or not 1<2;never not [not b] for all;even 3;";
+    String[] shorter = {"gifts 3 for all;", "gifts 3 for 1<2;", A + "likes 3 of a for all;gifts 3 for all;",
+      A + "never not a for all;gifts 3 for wish y;"};
+    WinterToys toys = new WinterToys();
+    for (String text : shorter) {
+      for (int round = 0; round < 4; round++) {
+        Check.rules(toys, longer + (round < 2 ? "" : ";"));
+        Check.rules(toys, text);
+        Check.report(toys, "y", 1, 2, 3, 4, 5);
+        Check.due("15: DUE by " + text, toys.of(0, 9), 3);
+        Check.due("13: MARKS of " + text, toys.all(1), 0);
+        Check.due("13: EVEN of " + text, toys.all(7), 1000);
+        boolean kinds = text.startsWith(A);
+        Check.due("17: may by " + text, toys.may(0, 0), kinds ? 1 : Check.NONE);
+        int points = text.contains("likes") ? 3 : 0;
+        Check.due("18: POINTS by " + text, toys.points(0, 0), kinds ? points : -2000000000);
+      }
+    }
+  }
+
   /** "its FAULT (what 0; 0 without, or ahead of any), its place (1; NONE without). NONE for another what." */
   private static void faultsWhat() {
     WinterToys toys = new WinterToys();
@@ -649,6 +673,7 @@ public final class BoundsTextTest {
     allStays();
     allGoes();
     allIsNew();
+    nothingStaysBehind();
     faultsWhat();
     lettersOfNames();
     markedOrNot();

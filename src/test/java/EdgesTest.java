@@ -3,8 +3,8 @@
  * answer is the model's, nothing is thrown, and what was refused has changed nothing.
  */
 public final class EdgesTest {
-  private static final int[] EDGES = {Integer.MIN_VALUE, Integer.MIN_VALUE + 1, -2000000000, -65536, -1000, -2, -1, 0, 1,
-    2, 3, 4, 5, 7, 8, 9, 10, 11, 17, 18, 24, 25, 31, 32, 39, 40, 41, 64, 79, 80, 81, 99, 100, 199, 200, 201, 255, 256,
+  private static final int[] EDGES = {Integer.MIN_VALUE, Integer.MIN_VALUE + 1, -2000000000, -65536, -1000, -2, -1, 0,
+    1, 2, 3, 4, 5, 7, 8, 9, 10, 11, 17, 18, 24, 25, 31, 32, 39, 40, 41, 64, 79, 80, 81, 99, 100, 199, 200, 201, 255, 256,
     500, 999, 1000, 1001, 9999, 10000, 65536, 99999, 100000, 100001, Integer.MAX_VALUE - 1, Integer.MAX_VALUE};
   private static final int[] FEW = {Integer.MIN_VALUE, -2, -1, 0, 1, 2, 3, 7, 8, 9, 10, 17, 18, 24, 25, 39, 40, 41, 99,
     100, Integer.MAX_VALUE};
@@ -95,8 +95,8 @@ public final class EdgesTest {
     Pair p = new Pair(title);
     StringBuilder text = new StringBuilder();
     for (int i = 0; i < 10; i++) {
-      text.append("kind k").append((char) ('a' + i)).append(" worth ").append(1 + i * 50).append(" price ").append(i * 100)
-          .append(" at ").append(i * 20).append(i < 8 ? " is m" + (char) ('a' + i) + ";" : ";");
+      text.append("kind k").append((char) ('a' + i)).append(" worth ").append(1 + i * 50).append(" price ")
+          .append(i * 100).append(" at ").append(i * 20).append(i < 8 ? " is m" + (char) ('a' + i) + ";" : ";");
     }
     p.text(text + "gifts age-5 for all;likes age*school of ma or kb for house>1;never kc for wish x;even 99;");
     p.rules();

@@ -326,8 +326,9 @@ public final class RandomTest {
       maker.kind();
     }
     boolean alike = maker.chance(60);
+    String least = maker.chance(50) ? "" : "0-";
     for (int i = dice.nextInt(9); i > 0; i--) {
-      maker.text.append(alike ? "likes " + (1 + dice.nextInt(2)) : "likes age*" + dice.nextInt(9) + "+school*"
+      maker.text.append(alike ? "likes " + least + (1 + dice.nextInt(2)) : "likes age*" + dice.nextInt(9) + "+school*"
           + dice.nextInt(9) + "-" + dice.nextInt(99)).append(" of ");
       maker.which(2);
       maker.text.append(" for ").append(maker.pick(FACTS)).append("<").append(dice.nextInt(12)).append(";");
