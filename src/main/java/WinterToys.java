@@ -12,10 +12,12 @@ public final class WinterToys {
     private static final int MOST_ACTS = 200;
     private static final int MOST_REPORTS = 80;
     private static final int MOST_CHILDREN = 40;
+    private static final int MOST_AGE = 17;
     private static final int DAYS = 24;
     private static final int MOST_DUE = 3;
     private static final int TOLD_WISHES = 3;
     private static final int KEPT_WISHES = 4;
+    private static final int MOST_WORTH = 500;
     private static final int MOST_COINS = 100000;
     private static final int MOST_WINDOWS = 9;
     private static final int NO_POINTS = -2000000000;
@@ -149,7 +151,7 @@ public final class WinterToys {
     public int report(int code, int age, int school, int house, int day) {
         int wishes = tape.readWishes(ledger.heard);
         tape.length = 0;
-        boolean sound = wishes != NONE && within(code, 0, 9999) && within(age, 0, 17)
+        boolean sound = wishes != NONE && within(code, 0, 9999) && within(age, 0, MOST_AGE)
                 && within(school, 0, 99) && within(house, 0, 999) && isDay(day);
         if (!sound || ledger.reports >= MOST_REPORTS || ledger.isFull()) {
             return NONE;
@@ -689,7 +691,7 @@ public final class WinterToys {
             book.kindName[kind] = tape.word;
             book.kinds++;
             tape.step();
-            return readsNumber(WORTH, 1, 500, book.worth, kind)
+            return readsNumber(WORTH, 1, MOST_WORTH, book.worth, kind)
                     && readsNumber(PRICE, 0, 1000, book.price, kind)
                     && readsNumber(AT, 0, 200, book.shelf, kind)
                     && readsMarks(kind) && passes(';');
@@ -1413,7 +1415,8 @@ public final class WinterToys {
      * which takes another kind instead ..). A deal that was best stays best by that.
      */
     private static final class Filler {
-        static final long FAR = Long.MAX_VALUE / 4;
+        /** Far above what any chain of changes can cost. */
+        static final long FAR = 1L << 60;
         /** In the place of a row: what is left takes a kind back. */
         static final int NOBODY = -2;
         /** A power of two above the number of rows, for a ring. */
@@ -1881,7 +1884,7 @@ public final class WinterToys {
                 }
                 return sum;
             }
-            return what == 2 ? lacking(0, Integer.MAX_VALUE) : NONE;
+            return what == 2 ? lacking(0, MOST_AGE) : NONE;
         }
 
         int lacking(int from, int to) {
@@ -1941,7 +1944,7 @@ public final class WinterToys {
         /** The place of the best set that makes a child right; NONE without. */
         private int cheapest(int child, Book book) {
             int most = greatest(child, book);
-            int sets = listSets(child, book, most == 0 ? Integer.MAX_VALUE : most);
+            int sets = listSets(child, book, most == 0 ? MOST_KINDS * MOST_WORTH : most);
             int lacking = due[child] - Integer.bitCount(bag[child]);
             int best = NONE;
             for (int i = 0; i < sets; i++) {

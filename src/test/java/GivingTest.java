@@ -97,6 +97,28 @@ public final class GivingTest {
     Check.due("20: points", toys.given(0), 0);
   }
 
+  /** Givings that are as good as one another, where the first one is found by changes of several children at once. */
+  private static void firstByChains() {
+    WinterToys toys = two("never c for age=1;never b for age=2;likes 10 of any for all;", 5, 4);
+    for (int kind = 0; kind < 3; kind++) {
+      toys.gifts(kind, 1, 1);
+    }
+    gets("the other CHILD takes the one that is left over", toys, 2, 1, 4);
+    toys = two("never b for age<3;likes 5 of a for age<3;likes 10 of a for age=3;likes 20 of b for age=3;", 5, 4);
+    toys.report(0, 3, 0, 0, 5);
+    toys.gifts(0, 1, 1);
+    toys.gifts(1, 1, 1);
+    gets("the other CHILD goes without", toys, 2, 1, 0, 2);
+    toys = two("kind d worth 1 price 1 at 1;never a or d for age=1;never a or c for age=2;never b or d for age=3;"
+        + "likes 10 of any for all;likes 1 of b for age=2;likes 1 of c for age=3;", 1, 1);
+    toys.report(0, 3, 0, 0, 1);
+    for (int kind = 0; kind < 4; kind++) {
+      toys.gifts(kind, 1, 1);
+    }
+    gets("one loses a point, another one has it", toys, 3, 2, 8, 4);
+    Check.due("20: points", toys.given(0), 31);
+  }
+
   private static void blind() {
     WinterToys toys = two("never not a for age=2;", 1, 2);
     toys.gifts(0, 1, 1);
@@ -223,6 +245,7 @@ public final class GivingTest {
     firstThen();
     days();
     chain();
+    firstByChains();
     blind();
     sums();
     asItWas();

@@ -155,6 +155,32 @@ public final class RulesTest {
     Check.due("4: EVEN without any", toys.all(7), 1000);
   }
 
+  /** What was read ahead takes no room from what is read behind it, and opens nothing in it. */
+  private static void againAndAgain() {
+    WinterToys toys = new WinterToys();
+    String tooOpen = "never " + "[".repeat(9) + "any" + "]".repeat(9) + " for all;";
+    for (int i = 0; i < 3; i++) {
+      Check.due("4: too much is open, again", Check.rules(toys, tooOpen), -1);
+      Check.due("5: too much is open, again", toys.fault(0), 5);
+      Check.due("5: its place, again", toys.fault(1), 14);
+    }
+    Check.due("4: sound behind it", Check.rules(toys, tooOpen.replace("[[", "[").replace("]]", "]")), 1);
+    toys = new WinterToys();
+    String sums = "gifts 1" + "-1+1".repeat(240) + "+1 for all;";
+    for (int i = 0; i < 5; i++) {
+      Check.due("4: a long sum, again", Check.rules(toys, sums), 1);
+      Check.due("8: a report", toys.report(0, 1, 1, 0, 1), 1);
+      Check.due("15: DUE by a long sum, again", toys.of(0, 9), 2);
+    }
+    toys = new WinterToys();
+    String wishes = "gifts 2 for " + "wish a or ".repeat(96) + "wish z;";
+    for (int i = 0; i < 6; i++) {
+      Check.due("4: many WISHES, again", Check.rules(toys, wishes), 1);
+      Check.due("8: a report", Check.report(toys, "z", 0, 1, 1, 0, 1), 1);
+      Check.due("15: DUE by the last of many WISHES, again", toys.of(0, 9), 2);
+    }
+  }
+
   private static void names() {
     WinterToys toys = Check.barn("kind ball worth 1 price 0 at 0 is red,soft;kind abcdefgh worth 1 price 0 at 0;"
         + "kind c worth 1 price 0 at 0 is loud, red;");
@@ -187,6 +213,7 @@ public final class RulesTest {
     otherFaults();
     limits();
     whatStays();
+    againAndAgain();
     names();
     Check.finish("RulesTest");
   }
