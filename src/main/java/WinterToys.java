@@ -2066,8 +2066,9 @@ public final class WinterToys {
         }
 
         int steps(int b) {
+            int stride = Math.max(1, b);
             int sum = 0;
-            for (int i = 0; i < count; i += b) {
+            for (int i = 0; i < count; i += stride) {
                 sum += 2 * far[i];
             }
             return sum;

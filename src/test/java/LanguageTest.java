@@ -8,7 +8,9 @@ import java.util.ArrayList;
 import java.util.Arrays;
 import java.util.HashSet;
 import java.util.List;
+import java.util.Map;
 import java.util.Set;
+import java.util.TreeMap;
 import java.util.TreeSet;
 import java.util.regex.Matcher;
 import java.util.regex.Pattern;
@@ -120,12 +122,80 @@ public final class LanguageTest {
     Check.due("rule 11: methods were found", found > 100, true);
   }
 
+  /** Which methods call which, as Class.method; what is called on a field is of the class that bears its name. */
+  private static Map<String, Set<String>> callsOf(String code) {
+    Map<String, String> bodies = new TreeMap<>();
+    Matcher m = Pattern.compile("(?m)^ {4}private static final class (\\w+)|"
+        + "^( {4}| {8})(?:[a-z][\\w\\[\\]]* )+(\\w+)\\([^)]*\\) \\{\\n((?s:.*?))^\\2\\}\\n").matcher(code);
+    String owner = "WinterToys";
+    while (m.find()) {
+      if (m.group(1) != null) {
+        owner = m.group(1);
+      } else {
+        bodies.put(owner + "." + m.group(3), m.group(4));
+      }
+    }
+    Map<String, Set<String>> calls = new TreeMap<>();
+    bodies.forEach((name, body) -> {
+      Set<String> called = new TreeSet<>();
+      Matcher call = Pattern.compile("(?:\\b(\\w+)\\.)?\\b(\\w+)\\(").matcher(body);
+      while (call.find()) {
+        String on = call.group(1) == null ? name.substring(0, name.indexOf('.'))
+            : Character.toUpperCase(call.group(1).charAt(0)) + call.group(1).substring(1);
+        called.add(on + "." + call.group(2));
+        called.add("WinterToys." + (call.group(1) == null ? call.group(2) : ""));
+      }
+      called.retainAll(bodies.keySet());
+      calls.put(name, called);
+    });
+    return calls;
+  }
+
+  private static Set<String> reached(Map<String, Set<String>> calls, String from) {
+    Set<String> seen = new TreeSet<>();
+    List<String> open = new ArrayList<>(calls.get(from));
+    while (!open.isEmpty()) {
+      String next = open.remove(open.size() - 1);
+      if (seen.add(next)) {
+        open.addAll(calls.get(next));
+      }
+    }
+    return seen;
+  }
+
+  private static int depth(Map<String, Set<String>> calls, String from) {
+    int most = 0;
+    for (String next : calls.get(from)) {
+      if (!reached(calls, next).contains(from)) {
+        most = Math.max(most, depth(calls, next));
+      }
+    }
+    return 1 + most;
+  }
+
+  /** Calls that call one another are left out: the brackets of a text bound them (rule 8). */
+  private static void depths(String code) {
+    Map<String, Set<String>> calls = callsOf(code);
+    Set<String> again = new TreeSet<>();
+    for (String name : calls.keySet()) {
+      int deep = depth(calls, name);
+      Check.due("rule 11: " + name + " goes " + deep + " deep", deep <= 8, true);
+      if (reached(calls, name).contains(name)) {
+        again.add(name);
+      }
+    }
+    Check.due("rule 11: give() goes deep", depth(calls, "WinterToys.give"), 8);
+    Check.same("rule 8: what calls itself", again.toString(),
+        "[Parser.readsBoth, Parser.readsEither, Parser.readsPart, Parser.readsSingle, Parser.readsSum]");
+  }
+
   public static void main(String[] args) throws IOException {
     face();
     String source = Files.readString(Path.of("src/main/java/WinterToys.java"));
     Check.due("rule 4: constants of signs 1 to 127", source.chars().allMatch(c -> c < 128), true);
     words(code(source));
     lengths(source);
+    depths(code(source));
     Check.finish("LanguageTest");
   }
 }

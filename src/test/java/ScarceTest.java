@@ -5,6 +5,9 @@ public final class ScarceTest {
   private static final int MOST_OTHERS = 24;
   private static final int MOST_TEXT = 960;
 
+  /** Runs in which rows of the giving ahead would do harm, if they were looked at. */
+  private static final int[] BEHIND_ANOTHER = {107618, 306489, 403275, 605309, 613543};
+
   private final Random dice;
   private final Pair pair;
   private final int kinds;
@@ -84,6 +87,23 @@ public final class ScarceTest {
     pair.same("spent()", pair.toys.spent(), pair.model.spent());
   }
 
+  /** Some acts, or the reports of all children from a day on. */
+  private void annulSome(int reports) {
+    int acts = pair.model.acts.size();
+    int last = 1 + dice.nextInt(days);
+    if (dice.nextInt(2) == 0) {
+      for (int i = dice.nextInt(8); i > 0; i--) {
+        pair.annul(1 + dice.nextInt(acts));
+      }
+      return;
+    }
+    for (int act = 1; act <= reports; act++) {
+      if (pair.model.acts.get(act - 1).detail()[4] >= last) {
+        pair.annul(act);
+      }
+    }
+  }
+
   private void run() {
     int children = 2 + dice.nextInt(11);
     rules(children);
@@ -100,10 +120,7 @@ public final class ScarceTest {
       pair.gifts(dice.nextInt(kinds), 1 + dice.nextInt(days), n);
     }
     compare();
-    int acts = pair.model.acts.size();
-    for (int i = dice.nextInt(8); i > 0; i--) {
-      pair.annul(1 + dice.nextInt(acts));
-    }
+    annulSome(children * rounds);
     compare();
   }
 
@@ -111,6 +128,9 @@ public final class ScarceTest {
     int from = args.length > 0 ? Integer.parseInt(args[0]) : 1;
     int to = args.length > 1 ? Integer.parseInt(args[1]) : 2000;
     for (int seed = from; seed <= to; seed++) {
+      new ScarceTest(seed).run();
+    }
+    for (int seed : BEHIND_ANOTHER) {
       new ScarceTest(seed).run();
     }
     System.out.println("ScarceTest: " + Pair.compared + " answers compared with the model, " + Pair.wrong + " differ");
